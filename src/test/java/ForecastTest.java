@@ -69,6 +69,9 @@ final class ForecastTest {
         C.due("lifts of mend", x.ifMended(0, 0), 4);
         // mended 3:18(4:36 0:19(2:37 1:19)); 3 gone: 4 against 0, 1 against 4; 0 gone: 1 and 2;
         C.due("lifts of drawing all", x.ifMended(0, 1), 4);
+        WoodPiles y = Checks.yard("Oppl030l120l010l140j01");
+        C.due("fewer lifts of drawing all", y.ifMended(0, 1), 2);
+        C.due("than of mend", y.ifMended(0, 0), 3);
         C.due("one log", x.ifMended(1, 0) * 10 + x.ifMended(1, 1), 0);
         C.due("nothing is changed", Checks.looks(x), before);
         C.outOfBounds("ifMended(2)", () -> x.ifMended(2, 0));

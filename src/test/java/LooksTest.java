@@ -110,6 +110,13 @@ final class LooksTest {
         x.take(0);
         C.outOfBounds("a log that was taken out", () -> x.logOf(0, 9));
         C.due("the log over it", x.logOf(1, 6), 1);
+        WoodPiles y = Checks.yard("Opl010l010l008l009l007");
+        C.due("shape", Checks.shape(y, 0), "4:7(2:8(3:9 0:10(1:10 -)) -)");
+        int[] under = {1, 0, 3, 0, 4};
+        for (int l = 0; l < under.length; l++) {
+            C.due("under " + l, y.logOf(l, 6), under[l]);
+            C.due("ranked(0, " + l + ", 0)", y.ranked(0, l, 0), new int[] {4, 2, 3, 0, 1}[l]);
+        }
     }
 
     private static void promise9Ranked() {
@@ -145,5 +152,9 @@ final class LooksTest {
         C.outOfBounds("off, rank 5", () -> x.ranked(0, 5, 0));
         x.log(1, 4);
         C.due("the other pile is not off", x.ranked(1, 0, 0), 5);
+        WoodPiles y = Checks.yard("Opl040l041l042l003r02");
+        C.due("one is off", y.pileOf(0, 4), 1);
+        C.badState("one is off, way 0", () -> y.ranked(0, 0, 0));
+        C.badState("one is off, way 1", () -> y.ranked(0, 0, 1));
     }
 }

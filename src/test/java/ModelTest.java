@@ -33,7 +33,45 @@ final class ModelTest {
         for (int i = piles; i < CALLS; i++) {
             int kind = random.nextInt(100);
             same("run " + run + ", call " + i, kind < actions ? 8 + random.nextInt(14) : random.nextInt(29));
+            if (i % 64 == 63) {
+                sameLooks("run " + run + ", behind call " + i);
+            }
         }
+    }
+
+    private void sameLooks(String where) {
+        for (int what = 0; what <= 11; what++) {
+            C.due(where + ", about(" + what + ")", x.about(what), m.about(what));
+        }
+        for (int l = 0; l < 24; l++) {
+            for (int what = 0; what <= 6; what++) {
+                final int log = l;
+                final int asked = what;
+                C.due(where + ", logOf(" + l + ", " + what + ")", Checks.outcome(() -> x.logOf(log, asked)),
+                        Checks.outcome(() -> m.logOf(log, asked)));
+            }
+        }
+        for (int p = 0; p < m.about(0); p++) {
+            samePile(where, p);
+        }
+    }
+
+    private void samePile(String where, int p) {
+        for (int what = 0; what <= 6; what++) {
+            C.due(where + ", pileOf(" + p + ", " + what + ")", x.pileOf(p, what), m.pileOf(p, what));
+        }
+        for (int i = 0; i <= 2 * m.pileOf(p, 0); i++) {
+            final int rank = i / 2;
+            final int way = i % 2;
+            C.due(where + ", ranked(" + p + ", " + rank + ", " + way + ")", Checks.outcome(() -> x.ranked(p, rank, way)),
+                    Checks.outcome(() -> m.ranked(p, rank, way)));
+        }
+        C.due(where + ", drawsTill(" + p + ")", x.drawsTill(p, 50), m.drawsTill(p, 50));
+        for (int what = 0; what <= 1; what++) {
+            C.due(where + ", ifMended(" + p + ", " + what + ")", x.ifMended(p, what), m.ifMended(p, what));
+        }
+        C.due(where + ", fewestLifts", x.fewestLifts(), m.fewestLifts());
+        C.due(where + ", harmless", x.harmless(), m.harmless());
     }
 
     private void same(String where, int method) {

@@ -78,6 +78,12 @@ final class ScriptsTest {
         C.due("join, wind, take", x.runScript(3, 410005003030000L), -1);
         C.due("join, draw of the empty one", x.runScript(2, 4100020000L), 1);
         C.due("rain does not make it off", x.runScript(2, 5103090000L), -1);
+        WoodPiles y = Checks.yard("Opl040l041l042l003");
+        C.due("rain makes one off", y.runScript(2, 5100290000L), 1);
+        C.due("only one", y.runScript(2, 5100290001L), -1);
+        C.due("mended", y.runScript(3, 510026000090000L), -1);
+        C.due("a weaker rain", y.runScript(2, 5100190000L), -1);
+        C.due("wind makes none off", y.runScript(2, 5000290000L), -1);
         C.due("nothing is changed", Checks.looks(x), before);
         C.badState("nor remembered", x::undo);
     }

@@ -65,6 +65,7 @@ final class TextTest {
 
     private static void promise4Ranges() {
         String[] wrongAtEnd = {"o", "p", " ", "OO", "Ox", "O ", "OP", "Ol4", "Ol-", "Ol0x", "Ol09:", "Ol0/", "Od4", "Ok3",
+            "Ol00:", "Ol01/", "Ok0:", "Ok1/", "Ow0:", "Ow1/", "Or0:", "Or1/", "Ol:", "Od/", "Oj1/", "On/", "Oc:",
             "Ok24", "Ok29", "Ok:", "Oj4", "Oj04", "Oj0x", "Oc4", "Oc0*", "Oc00", "Ow4", "Ow00", "Ow31", "Ow39", "Ow9",
             "Or4", "Or00", "Or31", "Om4", "On0", "On:", "Opd0 ", "Ol0000", "Od00", "Op\u00ff", "Op\u0000", "Oc0,", "Oc0."};
         for (String text : wrongAtEnd) {
@@ -121,7 +122,15 @@ final class TextTest {
     }
 
     private static void promise5Fresh() {
-        WoodPiles x = Checks.yard("Oppl040");
+        WoodPiles x = Checks.yard("Oppl040l041c0+c1+d0d0n9n1k00");
+        C.due("heat, smoke and cold nights", x.about(6) * 10000 + x.about(7) * 100 + x.about(8), 600110);
+        Checks.write(x, "O");
+        x.load();
+        C.due("all as in a new object", Checks.looks(x), Checks.looks(new WoodPiles()));
+        Checks.write(x, "ppppl140");
+        x.load();
+        C.due("and the covers", x.pileOf(0, 3) + x.pileOf(1, 3), 0);
+        x.clearText();
         x.set(7);
         x.draw(1);
         x.save(0);
