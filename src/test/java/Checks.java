@@ -8,12 +8,28 @@ final class Checks {
 
     private int wrong = 0;
     private int asked = 0;
+    private int sentences = 0;
+    private String words = "";
+
+    /** Runs the test of one sentence of the document; a wrong answer in it is told with the sentence's words. */
+    void sentence(String itsWords, Runnable test) {
+        int askedBefore = asked;
+        sentences++;
+        words = "\"" + itsWords + "\": ";
+        try {
+            test.run();
+        } catch (RuntimeException e) {
+            due("the run of calls", e.toString(), "no exception");
+        }
+        due("the test asks something", asked > askedBefore, true);
+        words = "";
+    }
 
     void due(String what, Object got, Object want) {
         asked++;
         if (!Objects.equals(got, want)) {
             wrong++;
-            System.out.println(what + " answered " + got + ", due is " + want);
+            System.out.println(words + what + " answered " + got + ", due is " + want);
         }
     }
 
@@ -34,6 +50,17 @@ final class Checks {
         dueThrow(what, IllegalStateException.class, call);
     }
 
+    /** The call throws just that, and nothing that can be asked about the state is another one behind it. */
+    void refused(String what, WoodPiles x, Class<? extends RuntimeException> want, Call call) {
+        String before = looks(x);
+        dueThrow(what, want, call);
+        due("the state behind " + what, looks(x), before);
+    }
+
+    void dueShape(WoodPiles x, int p, String want) {
+        due("the shape of pile " + p, shape(x, p), want);
+    }
+
     static String outcome(Call call) {
         try {
             return Integer.toString(call.answer());
@@ -43,7 +70,8 @@ final class Checks {
     }
 
     void end(String name) {
-        System.out.println(name + ": " + asked + " answers, " + wrong + " wrong");
+        String told = sentences == 0 ? "" : sentences + " sentences, ";
+        System.out.println(name + ": " + told + asked + " answers, " + wrong + " wrong");
         if (wrong > 0) {
             System.exit(1);
         }
